@@ -321,6 +321,9 @@ public final class PromiseTest {
         BondedWall x = wall(8, 3);
         due("14 least number of the least cost", x.bestRow(0), 0b00010000);
         due("14 over it", x.bestRow(1), 0b01000100);
+        BondedWall whole = wall(4, 2);
+        due("14 no joints at all", whole.bestRow(0), 0);
+        due("14 no joints over none", whole.bestRow(1), 0);
         due("14 on top", x.bestRow(2), 0b00010000);
         BondedWall tie = wall(4, 2);
         tie.price(4, -9);
@@ -476,6 +479,36 @@ public final class PromiseTest {
         x.lay(0, 0b00000100);
         due("20 the lower course comes first", x.wrong(0), 0);
         due("20 by its rule", x.wrong(1), 1);
+        BondedWall single = wall(4, 1);
+        single.lay(0, 0b0010);
+        single.price(1, -9);
+        due("20 the first cell alone", single.wrong(1), 3);
+        BondedWall beside = wall(10, 2);
+        beside.lay(0, 0b1000001100);
+        beside.open(0, 0b0000110000);
+        beside.lay(1, 0b0100000000);
+        due("20 longer than a lintel", beside.wrong(1), 3);
+        beside.lay(1, 0b0010000010);
+        due("20 a lintel over both", beside.wrong(0), -9);
+        beside.open(0, 0b0001000000);
+        beside.lay(0, 0b0000001000);
+        due("20 rule 5 of the right one before rule 6 of the left one", ruleOf(beside, 0b0001000010), 5);
+        beside.open(1, 0b0001000000);
+        due("20 the opening begins where the lintel ends", ruleOf(beside, 0b0000000010), 6);
+        beside.open(1, 0);
+        beside.open(0, 0b0010000000);
+        due("20 the opening lies right of the lintel", ruleOf(beside, 0b0001000010), 6);
+        due("20 a lintel over it", ruleOf(beside, 0b0000010000), -9);
+        beside.open(0, 0b0000000100);
+        beside.lay(0, 0b0001000000);
+        due("20 the opening lies left of the lintel", ruleOf(beside, 0b1000010000), 6);
+        due("20 one of two lintels lies over it", ruleOf(beside, 0b0000100000), 6);
+        due("20 the only lintel lies over it", ruleOf(beside, 0b1000100000), -9);
+    }
+
+    private static int ruleOf(BondedWall x, int jointsOfCourse1) {
+        x.lay(1, jointsOfCourse1);
+        return x.wrong(1);
     }
 
     private static void p21cost() {
@@ -483,6 +516,9 @@ public final class PromiseTest {
         due("21 longer than any: 100 each", x.cost(), 200);
         x.lay(0, 0b0000010000);
         due("21 4 and 6", x.cost(), 106);
+        x.lay(0, 0b1000100010);
+        due("21 1, 4, 4 and 1", x.cost(), 106);
+        x.lay(0, 0b0000010000);
         x.price(6, -9);
         due("21 6 without a price", x.cost(), 200);
         x.price(4, 33);

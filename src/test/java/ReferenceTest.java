@@ -18,8 +18,10 @@ public final class ReferenceTest {
     private final Random random;
     private final BondedWall wall = new BondedWall();
     private final ReferenceWall reference = new ReferenceWall();
-    /** Seldom wrong numbers, seldom many openings: both are steered by the run. */
+    /** Seldom wrong numbers in most runs. */
     private final int wrongOneIn;
+    /** A mild run asks little of its courses, so that most of its walls can be. */
+    private final boolean mild;
     private final int leastWidth;
     private final int mostCourses;
 
@@ -27,6 +29,7 @@ public final class ReferenceTest {
         this.check = check;
         random = new Random(seed);
         wrongOneIn = seed % 3 == 0 ? 6 : 40;
+        mild = seed % 2 == 1;
         boolean large = seed % 8 == 7;
         leastWidth = large ? 8 : 2;
         mostCourses = large ? 8 : 5;
@@ -64,7 +67,8 @@ public final class ReferenceTest {
         }
         boolean tooMany = which == 1 && reference.many(0) >= mostCourses && !isWrong();
         boolean tooSoon = which == 0 && random.nextInt(4) != 0;
-        return tooMany || tooSoon ? 18 : which;
+        boolean tooHard = mild && which >= 4 && which <= 7 && random.nextInt(3) != 0;
+        return tooMany || tooSoon || tooHard ? 11 + random.nextInt(8) : which;
     }
 
     private boolean isWrong() {
@@ -92,6 +96,32 @@ public final class ReferenceTest {
         return isWrong() ? set | 1 << random.nextInt(32) : set;
     }
 
+    /** In mild runs some cells side by side away from the ends, or the opening of the course below. */
+    private int anOpening(int c) {
+        if (!mild) {
+            return aSet(cells(), 1 + random.nextInt(4));
+        }
+        int below = reference.ofCourse(c - 1, 0);
+        if (below >= 0 && random.nextBoolean()) {
+            return below;
+        }
+        int broad = random.nextInt(5);
+        int from = 1 + random.nextInt(8);
+        return ((1 << from + broad) - (1 << from)) & cells() >> 1;
+    }
+
+    private int aPrice() {
+        if (random.nextInt(mild ? 12 : 5) == 0) {
+            return -9;
+        }
+        return between(0, random.nextInt(3) == 0 ? 99 : 3);
+    }
+
+    private int anEnd() {
+        int set = random.nextInt(2) == 0 ? 126 : 126 & ~(random.nextInt() & random.nextInt());
+        return isWrong() ? random.nextInt(256) : set;
+    }
+
     private int aRow(int c) {
         int rows = reference.row(c, -1);
         return rows > 0 && random.nextInt(3) > 0 ? reference.row(c, random.nextInt(rows)) : aSet(places(), 2);
@@ -111,18 +141,16 @@ public final class ReferenceTest {
             case "width":
                 return new int[] {between(leastWidth, 10), 0, 0};
             case "open":
-                return new int[] {c, aSet(cells(), 1 + random.nextInt(4)), 0};
+                return new int[] {c, anOpening(c), 0};
             case "must":
-                return new int[] {c, between(0, 1), aSet(places(), 3 + random.nextInt(3)) };
+                return new int[] {c, between(0, 1), aSet(places(), 3 + random.nextInt(3))};
             case "price":
-                int v = random.nextInt(5) == 0 ? -9 : between(0, random.nextInt(2) == 0 ? 3 : 99);
-                return new int[] {between(1, 6), v, 0};
+                return new int[] {between(1, 6), aPrice(), 0};
             case "lap":
             case "byLap":
                 return new int[] {between(1, 3), 0, 0};
             case "ends":
-                int set = random.nextInt(2) == 0 ? 126 : aSet(126, 0) & ~(random.nextInt() & random.nextInt());
-                return new int[] {between(0, 1), between(0, 1), isWrong() ? set : set & 126};
+                return new int[] {between(0, 1), between(0, 1), anEnd()};
             case "ofCourse":
                 return new int[] {c, between(0, 4), 0};
             case "row":

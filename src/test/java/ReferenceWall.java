@@ -156,8 +156,8 @@ final class ReferenceWall {
 
     private boolean near(int set, int other, int distance) {
         for (int x = 1; x < width; x++) {
-            for (int y = 1; y < width; y++) {
-                if ((set >> x) % 2 == 1 && (other >> y) % 2 == 1 && Math.abs(x - y) < distance) {
+            for (int y = Math.max(1, x - distance + 1); (set >> x) % 2 == 1 && y < x + distance; y++) {
+                if ((other >> y) % 2 == 1) {
                     return true;
                 }
             }
