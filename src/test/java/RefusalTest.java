@@ -19,6 +19,9 @@ public final class RefusalTest {
     private static final Check CHECK = new Check();
 
     public static void main(String[] args) {
+        CHECK.holds("the ordinary wall can be", ordinary().walls() > 1 && ordinary().wrong(0) == -9);
+        CHECK.holds("the filled one can be", filled().walls() > 1);
+        CHECK.due("the impossible one cannot", impossible().walls(), 0);
         unknown();
         outsideOfTheWall();
         outsideOfCourses();
@@ -37,11 +40,12 @@ public final class RefusalTest {
         x.course();
         x.open(0, 0b0001100);
         x.must(0, 1, 0b0100000);
-        x.must(1, 0, 0b0000010);
+        x.must(1, 0, 0b1000000);
         x.lay(0, 0b0100000);
-        x.lay(1, 0b1000100);
-        x.price(5, 4);
-        x.price(6, -9);
+        x.lay(1, 0b0000010);
+        x.lay(2, 0b1001000);
+        x.price(5, -9);
+        x.price(6, 4);
         x.ends(0, 1, 0b0111110);
         x.lap(2);
         return x;
