@@ -6,14 +6,8 @@ public final class PromiseTest {
         CHECK.due(call, got, want);
     }
 
-    /** A wall of a width with so many courses. */
     private static BondedWall wall(int width, int courses) {
-        BondedWall x = new BondedWall();
-        x.width(width);
-        for (int c = 0; c < courses; c++) {
-            x.course();
-        }
-        return x;
+        return Walls.wall(width, courses);
     }
 
     public static void main(String[] args) {

@@ -1,5 +1,3 @@
-import java.util.ArrayList;
-import java.util.List;
 import java.util.function.Supplier;
 import java.util.function.ToLongFunction;
 
@@ -19,9 +17,9 @@ public final class RefusalTest {
     private static final Check CHECK = new Check();
 
     public static void main(String[] args) {
-        CHECK.holds("the ordinary wall can be", ordinary().walls() > 1 && ordinary().wrong(0) == -9);
-        CHECK.holds("the filled one can be", filled().walls() > 1);
-        CHECK.due("the impossible one cannot", impossible().walls(), 0);
+        CHECK.holds("the ordinary wall can be", Walls.ordinary().walls() > 1 && Walls.ordinary().wrong(0) == -9);
+        CHECK.holds("the filled one can be", Walls.filled().walls() > 1);
+        CHECK.due("the impossible one cannot", Walls.impossible().walls(), 0);
         unknown();
         outsideOfTheWall();
         outsideOfCourses();
@@ -31,84 +29,12 @@ public final class RefusalTest {
         CHECK.end();
     }
 
-    /** Three courses of 7 cells, with all that can be told of them. */
-    private static BondedWall ordinary() {
-        BondedWall x = new BondedWall();
-        x.width(7);
-        x.course();
-        x.course();
-        x.course();
-        x.open(0, 0b0001100);
-        x.must(0, 1, 0b0100000);
-        x.must(1, 0, 0b1000000);
-        x.lay(0, 0b0100000);
-        x.lay(1, 0b0000010);
-        x.lay(2, 0b1001000);
-        x.price(5, -9);
-        x.price(6, 4);
-        x.ends(0, 1, 0b0111110);
-        x.lap(2);
-        return x;
-    }
-
-    private static BondedWall empty() {
-        BondedWall x = ordinary();
-        x.width(7);
-        return x;
-    }
-
-    private static BondedWall filled() {
-        BondedWall x = ordinary();
-        for (int c = 3; c < 8; c++) {
-            x.course();
-        }
-        return x;
-    }
-
-    private static BondedWall impossible() {
-        BondedWall x = ordinary();
-        x.must(2, 1, 0b0000100);
-        x.must(2, 0, 0b0000100);
-        return x;
-    }
-
-    private static List<Long> allThatCanBeTold(BondedWall x) {
-        List<Long> told = new ArrayList<>();
-        for (int what = 0; what <= 5; what++) {
-            told.add((long) x.many(what));
-        }
-        for (int c = 0; c < 8; c++) {
-            for (int what = 0; what <= 4; what++) {
-                told.add((long) x.ofCourse(c, what));
-            }
-            told.add((long) x.row(c, -1));
-            told.add((long) x.bestRow(c));
-        }
-        told.add(x.walls());
-        told.add((long) x.best());
-        told.add((long) x.highest());
-        told.add((long) x.wrong(0));
-        told.add((long) x.wrong(1));
-        told.add((long) x.cost());
-        told.add((long) x.cut());
-        for (int length = 1; length <= 6; length++) {
-            told.add((long) x.price(length, 1));
-        }
-        for (int end = 0; end < 4; end++) {
-            told.add((long) x.ends(end / 2, end % 2, 0));
-        }
-        return told;
-    }
-
     private static void refused(String call, Supplier<BondedWall> made, ToLongFunction<BondedWall> asked, long want) {
-        BondedWall x = made.get();
-        CHECK.due(call, asked.applyAsLong(x), want);
-        boolean same = allThatCanBeTold(x).equals(allThatCanBeTold(made.get()));
-        CHECK.holds(call + " changes nothing", same);
+        Walls.refused(CHECK, call, made, asked, want);
     }
 
     private static void refused(String call, ToLongFunction<BondedWall> asked, long want) {
-        refused(call, RefusalTest::ordinary, asked, want);
+        refused(call, Walls::ordinary, asked, want);
     }
 
     /** There is no such course: answered before all else, whatever the other numbers are. */
@@ -125,10 +51,10 @@ public final class RefusalTest {
                 refused("piece " + other + at, x -> x.piece(c, other), UNKNOWN);
             }
             refused("bestRow" + at, x -> x.bestRow(c), UNKNOWN);
-            refused("bestRow, no wall right," + at, RefusalTest::impossible, x -> x.bestRow(c), UNKNOWN);
+            refused("bestRow, no wall right," + at, Walls::impossible, x -> x.bestRow(c), UNKNOWN);
         }
-        refused("open 0 of an empty wall", RefusalTest::empty, x -> x.open(0, 0), UNKNOWN);
-        refused("bestRow 0 of an empty wall", RefusalTest::empty, x -> x.bestRow(0), UNKNOWN);
+        refused("open 0 of an empty wall", Walls::empty, x -> x.open(0, 0), UNKNOWN);
+        refused("bestRow 0 of an empty wall", Walls::empty, x -> x.bestRow(0), UNKNOWN);
     }
 
     private static void outsideOfTheWall() {
@@ -139,7 +65,7 @@ public final class RefusalTest {
             refused("price of " + length, x -> x.price(length, 5), OUTSIDE);
             refused("no price of " + length, x -> x.price(length, -9), OUTSIDE);
             refused("bestOf " + length, x -> x.bestOf(length), OUTSIDE);
-            refused("bestOf, no wall right, " + length, RefusalTest::impossible, x -> x.bestOf(length), OUTSIDE);
+            refused("bestOf, no wall right, " + length, Walls::impossible, x -> x.bestOf(length), OUTSIDE);
         }
         for (int v : new int[] {100, -1, -8, -10, LEAST, MOST}) {
             refused("price " + v, x -> x.price(4, v), OUTSIDE);
@@ -147,7 +73,7 @@ public final class RefusalTest {
         for (int v : new int[] {0, 4, -1, 33, LEAST, MOST}) {
             refused("lap " + v, x -> x.lap(v), OUTSIDE);
             refused("byLap " + v, x -> x.byLap(v), OUTSIDE);
-            refused("byLap, no wall right, " + v, RefusalTest::impossible, x -> x.byLap(v), OUTSIDE);
+            refused("byLap, no wall right, " + v, Walls::impossible, x -> x.byLap(v), OUTSIDE);
         }
         for (int which : new int[] {-1, 2, 3, 32, LEAST, MOST}) {
             refused("ends of " + which, x -> x.ends(which, 0, 4), OUTSIDE);
@@ -193,16 +119,16 @@ public final class RefusalTest {
     }
 
     private static void state() {
-        refused("take", RefusalTest::empty, x -> x.take(), STATE);
-        refused("bestRow", RefusalTest::impossible, x -> x.bestRow(2), STATE);
-        refused("bestOf", RefusalTest::impossible, x -> x.bestOf(1), STATE);
-        refused("layBest", RefusalTest::impossible, x -> x.layBest(), STATE);
-        refused("best", RefusalTest::impossible, x -> x.best(), -9);
-        refused("walls", RefusalTest::impossible, x -> x.walls(), 0);
-        refused("byLap", RefusalTest::impossible, x -> x.byLap(1), -9);
+        refused("take", Walls::empty, x -> x.take(), STATE);
+        refused("bestRow", Walls::impossible, x -> x.bestRow(2), STATE);
+        refused("bestOf", Walls::impossible, x -> x.bestOf(1), STATE);
+        refused("layBest", Walls::impossible, x -> x.layBest(), STATE);
+        refused("best", Walls::impossible, x -> x.best(), -9);
+        refused("walls", Walls::impossible, x -> x.walls(), 0);
+        refused("byLap", Walls::impossible, x -> x.byLap(1), -9);
     }
 
     private static void full() {
-        refused("course", RefusalTest::filled, x -> x.course(), FULL);
+        refused("course", Walls::filled, x -> x.course(), FULL);
     }
 }
