@@ -1,14 +1,23 @@
 import java.io.IOException;
+import java.lang.reflect.Constructor;
+import java.lang.reflect.Field;
+import java.lang.reflect.Method;
+import java.lang.reflect.Modifier;
 import java.nio.file.Files;
 import java.nio.file.Path;
 import java.util.ArrayList;
 import java.util.LinkedHashMap;
 import java.util.List;
 import java.util.Map;
+import java.util.Set;
+import java.util.TreeSet;
+import java.util.regex.Matcher;
+import java.util.regex.Pattern;
 
 /**
- * The sentences that the boundary tests are for, held against the document: each stands there, in
- * this order, and of 'Terms' and the promises nothing is left out but the words told here.
+ * The document held against the class and the tests: the class has the public face that is told
+ * there and no other; each sentence that a boundary test is for stands there, in this order, and of
+ * 'Terms' and the promises nothing is left out but the words told here.
  */
 public final class DocumentTest {
     /** Between the sentences: names of parts, words that join, and what names no boundary case. */
@@ -24,6 +33,8 @@ public final class DocumentTest {
             return;
         }
         Map<String, String> parts = partsOf(Files.readString(Path.of(args[1])));
+        CHECK.holds("the document has 'The public face'", parts.containsKey("The public face"));
+        face(parts.getOrDefault("The public face", ""));
         Map<String, List<String>> quoted = quotedByHeading();
         for (Map.Entry<String, List<String>> one : quoted.entrySet()) {
             String part = parts.get(one.getKey());
@@ -37,6 +48,54 @@ public final class DocumentTest {
             CHECK.holds("'" + heading + "' has tests", !asked || quoted.containsKey(heading));
         }
         CHECK.end();
+    }
+
+    private static void face(String part) {
+        Set<String> told = new TreeSet<>();
+        Matcher calls = Pattern.compile("public ((?:int |long )?\\w+\\([^)]*\\))").matcher(part);
+        while (calls.find()) {
+            told.add(calls.group(1).replaceAll("int \\w+(?=[,)])", "int"));
+        }
+        Matcher constants = Pattern.compile("public static final (int|long) ([^;]*);").matcher(part);
+        while (constants.find()) {
+            for (String one : constants.group(2).split(", ")) {
+                told.add(constants.group(1) + " " + one.replace("Long.MIN_VALUE", "" + Long.MIN_VALUE));
+            }
+        }
+        Set<String> found = faceOfTheClass();
+        CHECK.holds("the face " + told + " is " + found, told.equals(found));
+    }
+
+    private static Set<String> faceOfTheClass() {
+        Set<String> found = new TreeSet<>();
+        for (Constructor<?> one : BondedWall.class.getConstructors()) {
+            found.add(one.getName() + typesOf(one.getParameterTypes()));
+        }
+        for (Method one : BondedWall.class.getDeclaredMethods()) {
+            if (Modifier.isPublic(one.getModifiers())) {
+                found.add(one.getReturnType() + " " + one.getName() + typesOf(one.getParameterTypes()));
+            }
+        }
+        for (Field one : BondedWall.class.getFields()) {
+            found.add(one.getType() + " " + one.getName() + " = " + valueOf(one));
+        }
+        return found;
+    }
+
+    private static String typesOf(Class<?>[] types) {
+        List<String> names = new ArrayList<>();
+        for (Class<?> type : types) {
+            names.add(type.getName());
+        }
+        return "(" + String.join(", ", names) + ")";
+    }
+
+    private static String valueOf(Field constant) {
+        try {
+            return String.valueOf(constant.get(null));
+        } catch (IllegalAccessException e) {
+            return "hidden";
+        }
     }
 
     private static Map<String, List<String>> quotedByHeading() {
