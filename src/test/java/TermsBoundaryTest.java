@@ -213,7 +213,8 @@ public final class TermsBoundaryTest {
             BondedWall silent = Walls.ordinary();
             change.accept(silent);
             check.holds(name + " shows at once", after.equals(Walls.toldAtLast(silent)));
-            check.holds(name + " shows", !before.equals(after.subList(0, before.size())));
+            int both = Math.min(before.size(), after.size());
+            check.holds(name + " shows", !before.subList(0, both).equals(after.subList(0, both)));
         });
     }
 

@@ -77,23 +77,14 @@ final class Walls {
         return x;
     }
 
-    /** All that can be asked without a change; fewer than 180 calls. */
+    /**
+     * All that can be asked without a change, and nothing that is refused: what a refusal changed
+     * must not be hidden by refusals that change it too. Fewer than 160 calls.
+     */
     static List<Long> asked(BondedWall x) {
         List<Long> told = new ArrayList<>();
-        for (int c = 0; c < 8; c++) {
-            askCourse(x, c, told);
-        }
         for (int what = 0; what <= 5; what++) {
             told.add((long) x.many(what));
-        }
-        for (int length = 1; length <= 10; length++) {
-            told.add((long) x.pieces(length));
-        }
-        for (int length = 1; length <= 6; length++) {
-            told.add((long) x.bestOf(length));
-        }
-        for (int v = 1; v <= 3; v++) {
-            told.add((long) x.byLap(v));
         }
         told.add(x.walls());
         told.add((long) x.best());
@@ -102,23 +93,50 @@ final class Walls {
         told.add((long) x.wrong(1));
         told.add((long) x.cost());
         told.add((long) x.cut());
+        for (int length = 1; length <= 10; length++) {
+            told.add((long) x.pieces(length));
+        }
+        for (int v = 1; v <= 3; v++) {
+            told.add((long) x.byLap(v));
+        }
+        boolean canBe = x.best() != NONE;
+        for (int length = 1; canBe && length <= 6; length++) {
+            told.add((long) x.bestOf(length));
+        }
+        int courses = x.many(0);
+        for (int c = 0; c < courses; c++) {
+            askCourse(x, c, canBe, told);
+        }
         return told;
     }
 
-    private static void askCourse(BondedWall x, int c, List<Long> told) {
+    private static void askCourse(BondedWall x, int c, boolean canBe, List<Long> told) {
         for (int what = 0; what <= 4; what++) {
             told.add((long) x.ofCourse(c, what));
         }
-        for (int cell = 0; cell < 10; cell++) {
+        int width = x.many(1);
+        for (int cell = 0; cell < width; cell++) {
             told.add((long) x.piece(c, cell));
         }
         told.add((long) x.row(c, -1));
-        told.add((long) x.bestRow(c));
+        if (canBe) {
+            told.add((long) x.bestRow(c));
+        }
     }
 
-    /** Prices and ends are told by calls that change them, so the wall is of no use afterwards. */
+    /**
+     * Prices and ends are told by calls that change them, and an empty wall tells little before a
+     * course has come (here with a joint at each place, so that a trace of others below it would
+     * break a rule): so the wall is of no use afterwards.
+     */
     static List<Long> toldAtLast(BondedWall x) {
         List<Long> told = asked(x);
+        if (x.many(0) < 8) {
+            int c = x.course();
+            told.add((long) c);
+            told.add((long) x.lay(c, (1 << x.many(1)) - 2));
+            told.addAll(asked(x));
+        }
         for (int length = 1; length <= 6; length++) {
             told.add((long) x.price(length, 1));
         }
